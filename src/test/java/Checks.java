@@ -45,6 +45,43 @@ final class Checks {
         due(what, thrownBy(call), "NoSuchElementException");
     }
 
+    /** The call throws this, and changes nothing, seen or hidden. */
+    void refused(String what, Scene scene, Scene.Act call, String exception) {
+        TabletLine x = scene.make();
+        due(what, thrownBy(() -> call.on(x)), exception);
+        unchanged(what, scene, call);
+    }
+
+    void illegalArgument(String what, Scene scene, Scene.Act call) {
+        refused(what, scene, call, "IllegalArgumentException");
+    }
+
+    void illegalState(String what, Scene scene, Scene.Act call) {
+        refused(what, scene, call, "IllegalStateException");
+    }
+
+    void unsupported(String what, Scene scene, Scene.Act call) {
+        refused(what, scene, call, "UnsupportedOperationException");
+    }
+
+    void noSuchElement(String what, Scene scene, Scene.Act call) {
+        refused(what, scene, call, "NoSuchElementException");
+    }
+
+    /** The call answers this, and changes nothing, seen or hidden. */
+    void only(String what, Scene scene, Scene.Ask call, int want) {
+        due(what, call.of(scene.make()), want);
+        unchanged(what, scene, call::of);
+    }
+
+    private void unchanged(String what, Scene scene, Scene.Act call) {
+        due(what + ", nothing has changed", scene.afterTrying(call).tell(), scene.tell());
+    }
+
+    void answers(String what, Scene scene, Scene.Ask call, int want) {
+        due(what, call.of(scene.make()), want);
+    }
+
     void end() {
         System.out.println(wrong == 0 ? made + " answers are as due" : wrong + " of " + made + " answers are not as due");
         if (made == 0 || wrong != 0) {

@@ -1,34 +1,45 @@
+import java.util.ArrayList;
 import java.util.HashMap;
+import java.util.List;
 import java.util.Map;
 import java.util.NoSuchElementException;
 import java.util.Random;
+import java.util.function.Consumer;
+import java.util.function.Function;
 import java.util.function.IntBinaryOperator;
 import java.util.function.IntPredicate;
 import java.util.function.IntUnaryOperator;
 import java.util.function.Supplier;
 
 /**
- * Long walks of calls with a fixed seed, held against PlainLine: each answer, and after each call all that can be
- * looked at, so that a call that throws or refuses is seen to change nothing.
+ * Long walks of calls with a fixed seed, held against PlainLine: each answer, and often all that can be looked at. An
+ * object has 512 calls, so that the looks go to new objects, on which the walk's beginning is played again.
  */
 public final class WalkTest {
     private static final int WALKS = 200;
     private static final int CALLS = 512;
+    /** The readers' calls of one look: at most 9 sections, 8 tablets, 8 trains and 6 boxes. */
+    private static final int CALLS_OF_A_LOOK = 9 * (2 * 3 + 8) + 8 + 6;
+    private static final int CALLS_FROM_LOOK_TO_LOOK = 3;
 
     private static final Checks checks = new Checks();
     private static final Map<String, Integer> seen = new HashMap<>();
 
+    private record Step(String name, Function<TabletLine, Object> call, String due) {
+    }
+
     private final Random random;
-    private final TabletLine line;
+    private final int n;
+    private final int t;
+    private final int switches;
     private final PlainLine plain;
-    private String call;
+    private final List<Step> steps = new ArrayList<>();
 
     private WalkTest(int seed) {
         random = new Random(seed);
-        int n = seed % 4 == 0 ? random.nextInt(10) - 1 : 3 + random.nextInt(4);
-        int t = seed % 4 == 0 ? random.nextInt(12) : 4 + random.nextInt(5);
-        int switches = seed % 3 == 0 ? random.nextInt() : -1;
-        line = new TabletLine(n, t, switches);
+        n = seed % 4 == 0 ? random.nextInt(10) - 1 : 3 + random.nextInt(4);
+        t = seed % 4 == 0 ? random.nextInt(12) : 4 + random.nextInt(5);
+        switches = seed % 3 == 0 ? random.nextInt() : -1;
         plain = new PlainLine(n, t, switches);
     }
 
@@ -41,10 +52,23 @@ public final class WalkTest {
     }
 
     private void walk(int seed) {
-        for (int i = 0; i < CALLS; i++) {
+        int lookAt = 1 + seed % CALLS_FROM_LOOK_TO_LOOK;
+        while (steps.size() < CALLS) {
             step();
-            String at = "walk " + seed + ", call " + i + " " + call;
-            checks.due(at + ", all that can be seen", lookAtLine(), lookAtPlain());
+            if (steps.size() >= lookAt && steps.size() + CALLS_OF_A_LOOK <= CALLS) {
+                String after = "walk " + seed + ", a look after " + steps.size() + " calls";
+                checks.due(after, lookAtLine(), lookAtPlain());
+                lookAt = steps.size() + CALLS_FROM_LOOK_TO_LOOK;
+            }
+        }
+        play(seed);
+    }
+
+    private void play(int seed) {
+        TabletLine line = new TabletLine(n, t, switches);
+        for (int i = 0; i < CALLS; i++) {
+            Step step = steps.get(i);
+            checks.due("walk " + seed + ", call " + i + " " + step.name, answer(() -> step.call.apply(line)), step.due);
         }
     }
 
@@ -77,11 +101,17 @@ public final class WalkTest {
         };
     }
 
-    private void both(String name, Supplier<Object> ofLine, Supplier<Object> ofPlain) {
-        call = name;
-        String got = answer(ofLine);
-        checks.due(name, got, answer(ofPlain));
-        seen.merge(name.substring(0, name.indexOf('(')) + " " + got, 1, Integer::sum);
+    private static Function<TabletLine, Object> nothingOf(Consumer<TabletLine> run) {
+        return line -> {
+            run.accept(line);
+            return "void";
+        };
+    }
+
+    private void both(String name, Function<TabletLine, Object> ofLine, Supplier<Object> ofPlain) {
+        String due = answer(ofPlain);
+        steps.add(new Step(name, ofLine, due));
+        seen.merge(name.substring(0, name.indexOf('(')) + " " + due, 1, Integer::sum);
     }
 
     private boolean often() {
@@ -133,20 +163,20 @@ public final class WalkTest {
         boolean yes = random.nextInt(4) != 0;
         switch (random.nextInt(14)) {
             case 0, 1 -> both("plunge(" + box + ", " + section + ", " + yes + ")",
-                    nothing(() -> line.plunge(box, section, yes)), nothing(() -> plain.plunge(box, section, yes)));
+                    nothingOf(line -> line.plunge(box, section, yes)), nothing(() -> plain.plunge(box, section, yes)));
             case 2 -> both("wire(" + section + ", " + yes + ")",
-                    nothing(() -> line.wire(section, yes)), nothing(() -> plain.wire(section, yes)));
+                    nothingOf(line -> line.wire(section, yes)), nothing(() -> plain.wire(section, yes)));
             case 3, 4 -> both("take(" + box + ", " + section + ")",
-                    () -> line.take(box, section), () -> plain.take(box, section));
+                    line -> line.take(box, section), () -> plain.take(box, section));
             case 5 -> giveSome(box, section, tablet);
             case 6 -> both("train(" + train + ", " + section + ")",
-                    nothing(() -> line.train(train, section)), nothing(() -> plain.train(train, section)));
+                    nothingOf(line -> line.train(train, section)), nothing(() -> plain.train(train, section)));
             case 7 -> both("hand(" + train + ", " + tablet + ")",
-                    nothing(() -> line.hand(train, tablet)), nothing(() -> plain.hand(train, tablet)));
-            case 8 -> both("back(" + train + ")", () -> line.back(train), () -> plain.back(train));
+                    nothingOf(line -> line.hand(train, tablet)), nothing(() -> plain.hand(train, tablet)));
+            case 8 -> both("back(" + train + ")", line -> line.back(train), () -> plain.back(train));
             case 9 -> both("enter(" + train + ", " + yes + ")",
-                    () -> line.enter(train, yes), () -> plain.enter(train, yes));
-            case 10 -> both("arrive(" + train + ")", () -> line.arrive(train), () -> plain.arrive(train));
+                    line -> line.enter(train, yes), () -> plain.enter(train, yes));
+            case 10 -> both("arrive(" + train + ")", line -> line.arrive(train), () -> plain.arrive(train));
             case 11 -> switchSome(someBox());
             case 12 -> carrySome(section, box, yes ? 2 * random.nextInt(4) : random.nextInt(9) - 2);
             default -> lookWrong(box, section, train, tablet);
@@ -157,32 +187,36 @@ public final class WalkTest {
         int owner = often() ? Math.floorDiv(tablet, 100) : section;
         int end = someEnd(owner);
         both("give(" + end + ", " + owner + ", " + tablet + ")",
-                nothing(() -> line.give(end, owner, tablet)), nothing(() -> plain.give(end, owner, tablet)));
+                nothingOf(line -> line.give(end, owner, tablet)), nothing(() -> plain.give(end, owner, tablet)));
     }
 
     private void switchSome(int box) {
         if (random.nextBoolean()) {
-            both("switchOut(" + box + ")", () -> line.switchOut(box), () -> plain.switchOut(box));
+            both("switchOut(" + box + ")", line -> line.switchOut(box), () -> plain.switchOut(box));
         } else {
-            both("switchIn(" + box + ")", () -> line.switchIn(box), () -> plain.switchIn(box));
+            both("switchIn(" + box + ")", line -> line.switchIn(box), () -> plain.switchIn(box));
         }
     }
 
     private void carrySome(int section, int box, int many) {
         both("carry(" + section + ", " + box + ", " + many + ")",
-                nothing(() -> line.carry(section, box, many)), nothing(() -> plain.carry(section, box, many)));
+                nothingOf(line -> line.carry(section, box, many)), nothing(() -> plain.carry(section, box, many)));
     }
 
     private void lookWrong(int box, int section, int train, int tablet) {
-        both("phase(" + box + ", " + section + ")", () -> line.phase(box, section), () -> plain.phase(box, section));
-        both("slide(" + box + ", " + section + ")", () -> line.slide(box, section), () -> plain.slide(box, section));
-        both("spend(" + section + ", " + box + ")", () -> line.spend(section, box), () -> plain.spend(section, box));
-        both("where(" + tablet + ")", () -> line.where(tablet), () -> plain.where(tablet));
-        both("place(" + train + ")", () -> line.place(train), () -> plain.place(train));
-        both("out(" + box + ")", () -> line.out(box), () -> plain.out(box));
+        both("phase(" + box + ", " + section + ")", line -> line.phase(box, section), () -> plain.phase(box, section));
+        both("slide(" + box + ", " + section + ")", line -> line.slide(box, section), () -> plain.slide(box, section));
+        both("spend(" + section + ", " + box + ")", line -> line.spend(section, box), () -> plain.spend(section, box));
+        both("where(" + tablet + ")", line -> line.where(tablet), () -> plain.where(tablet));
+        both("place(" + train + ")", line -> line.place(train), () -> plain.place(train));
+        both("out(" + box + ")", line -> line.out(box), () -> plain.out(box));
     }
 
     private String lookAtLine() {
+        TabletLine line = new TabletLine(n, t, switches);
+        for (Step step : steps) {
+            answer(() -> step.call.apply(line));
+        }
         return look(line::phase, line::slide, line::spend, line::where, line::place, line::out);
     }
 
